@@ -300,6 +300,7 @@ public final class KnowDisk {
 
     private int layIfRoom(int page, int kind, int source, long value) {
         long free = freeSectors();
+        // From the 30 pages the document excepts only a page that goes, not one laid anew.
         if (Long.bitCount(open) >= MOST_PAGES || free == 0L || saidFull) {
             return NO_ROOM;
         }
@@ -580,8 +581,8 @@ public final class KnowDisk {
         }
 
         private void clear(int sector) {
-            if (hasSector(sector)) {
-                Arrays.fill(bytes, sector * SECTOR_BYTES, (sector + 1) * SECTOR_BYTES, (byte) 0);
+            for (int i = 0; i < SECTOR_BYTES; i++) {
+                put(sector, i, 0);
             }
         }
 

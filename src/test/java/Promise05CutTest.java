@@ -6,6 +6,8 @@ final class Promise05CutTest {
         everyCut();
         tearsOfAHead();
         sameHeadTwice();
+        negativeKeep();
+        tornPage();
         nothingElseIsLeft();
         notRunning();
         CHECKS.end();
@@ -111,6 +113,38 @@ final class Promise05CutTest {
         x.commit(5);
         x.cut(1, 10);
         CHECKS.due("the head of 5 torn beside that of 2", x.start(), 2);
+    }
+
+    private static void negativeKeep() {
+        int[] keeps = {-1, Integer.MIN_VALUE};
+        for (int keep : keeps) {
+            KnowDisk x = new KnowDisk(4);
+            x.page(1, -1, 1);
+            x.page(0, 0, 0);
+            x.commit(7);
+            x.cut(keep, 32);
+            CHECKS.due("cut(" + keep + ", 32): the next one is the first", x.start(), 7);
+        }
+    }
+
+    /** A page torn over an older one in the same sector: what is left of both is nobody's. */
+    private static void tornPage() {
+        for (int tear = 0; tear <= 32; tear++) {
+            KnowDisk x = new KnowDisk(0);
+            x.page(1, -1, 0x1111111111111111L);
+            x.commit(1);
+            x.sync();
+            x.page(0, 0, 0);
+            x.commit(2);
+            x.sync();
+            x.page(1, -1, 0x2222222222222222L);
+            x.commit(4);
+            x.cut(0, tear);
+            CHECKS.due("cut(0, " + tear + ") of a page", x.start(), 2);
+            CHECKS.noByte(x, 0, 0);
+            x.page(1, -1, 0x3333333333333333L);
+            CHECKS.page("laid over it", x, 0, 1, 255, 0x3333333333333333L, 0);
+        }
     }
 
     private static void nothingElseIsLeft() {
