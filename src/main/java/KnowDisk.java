@@ -140,7 +140,7 @@ public final class KnowDisk {
         if (running) {
             return NOT_IN_THIS_STATE;
         }
-        int head = headToOpen();
+        int head = headToOpen(isWhole(0), isWhole(1));
         latest = head == NONE ? new State(0, 0L) : stateOfHead(head);
         held = latest.sectors;
         openLatest();
@@ -369,16 +369,14 @@ public final class KnowDisk {
         return xor;
     }
 
-    private int headToOpen() {
-        boolean first = isWhole(0);
-        boolean second = isWhole(1);
-        if (first && second) {
+    private int headToOpen(boolean firstIsWhole, boolean secondIsWhole) {
+        if (firstIsWhole && secondIsWhole) {
             return disk.intOf(1, TRANSACTION_AT) > disk.intOf(0, TRANSACTION_AT) ? 1 : 0;
         }
-        if (first) {
+        if (firstIsWhole) {
             return 0;
         }
-        return second ? 1 : NONE;
+        return secondIsWhole ? 1 : NONE;
     }
 
     private State stateOfHead(int head) {
