@@ -44,6 +44,14 @@ final class Bytes {
         return b;
     }
 
+    /** The sector of a page that is on the disk, by making its sum wrong for a while. */
+    static int sectorOf(KnowDisk x, int page) {
+        x.poke(page, 31, 1);
+        int sector = x.wrong(2);
+        x.poke(page, 31, 1);
+        return sector;
+    }
+
     /** Pokes a page's sector till it has these bytes. */
     static void force(KnowDisk x, int page, byte[] want) {
         byte[] is = of(x, page);

@@ -4,10 +4,13 @@ final class Promise01NewObjectTest {
 
     public static void main(String[] args) {
         sizes();
+        smallestAndLargest();
         beginning();
+        transactionZero();
         CHECKS.end();
     }
 
+    /** "(8 more than sectors modulo 57)": what is left over is never below 0. */
     private static void sizes() {
         int[] given = {0, 1, 56, 57, 58, -1, -57, -58, Integer.MAX_VALUE, Integer.MIN_VALUE};
         for (int sectors : given) {
@@ -48,6 +51,16 @@ final class Promise01NewObjectTest {
         return laid;
     }
 
+    /** "A disk of 8 .. 64 sectors", written out: the least, the greatest, and where it wraps around. */
+    private static void smallestAndLargest() {
+        int[][] pairs = {{0, 8}, {56, 64}, {57, 8}, {-1, 64}, {-57, 8}, {114, 8}, {113, 64},
+            {Integer.MAX_VALUE, 48}, {Integer.MIN_VALUE, 24}};
+        for (int[] pair : pairs) {
+            CHECKS.due("sectors of KnowDisk(" + pair[0] + ")", places(new KnowDisk(pair[0])) + 2, pair[1]);
+        }
+    }
+
+    /** "running, with an open state without pages". */
     private static void beginning() {
         KnowDisk x = new KnowDisk(7);
         CHECKS.due("start() of a new one", x.start(), -3);
@@ -66,5 +79,22 @@ final class Promise01NewObjectTest {
         x.cut(0, 0);
         CHECKS.due("start() of an empty disk", x.start(), 0);
         CHECKS.due("page(1, -1, 3) on it", x.page(1, -1, 3), 0);
+    }
+
+    /** "the latest transaction is 0, without pages, as if its head had reached the disk". */
+    private static void transactionZero() {
+        KnowDisk x = new KnowDisk(0);
+        CHECKS.due("sync()", x.sync(), 0);
+        for (int page = 0; page < 6; page++) {
+            CHECKS.due("all its sectors are free", x.page(1, -1, 3), page);
+        }
+        CHECKS.due("commit(0) is not above it", x.commit(0), -2);
+        CHECKS.due("backup(0)", x.backup(0), 0);
+        CHECKS.due("sync() brings none of the pages", x.sync(), 0);
+        x.cut(0, 32);
+        CHECKS.due("start()", x.start(), 0);
+        CHECKS.noByte(x, 0, 0);
+        CHECKS.due("a page", x.page(1, -1, 3), 0);
+        CHECKS.due("the least number above it", x.commit(1), 2);
     }
 }

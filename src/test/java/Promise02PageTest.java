@@ -7,11 +7,16 @@ final class Promise02PageTest {
         leastNumbers();
         leastSectors();
         sectorsInUse();
+        neverForZero();
         refused();
         thirtyPages();
         CHECKS.end();
     }
 
+    /**
+     * "else page of, which gets that kind and value anew", "(v is not looked at)", "(also if others
+     * are derived from it)".
+     */
     private static void laying() {
         KnowDisk x = new KnowDisk(30);
         CHECKS.due("page(1, -1, long)", x.page(1, -1, 0x8123456789ABCDEFL), 0);
@@ -34,6 +39,7 @@ final class Promise02PageTest {
         CHECKS.page("its source went", x, 2, 3, 0, Bytes.derived(0x8123456789ABCDEFL), 0);
     }
 
+    /** "a new one (the least number that is free)". */
     private static void leastNumbers() {
         KnowDisk x = new KnowDisk(30);
         for (int page = 0; page < 6; page++) {
@@ -48,14 +54,6 @@ final class Promise02PageTest {
         CHECKS.due("then the next", x.page(1, -1, 0), 6);
     }
 
-    /** The sector of a page that is committed and synced, by making its sum wrong for a while. */
-    private static int sectorOf(KnowDisk x, int page) {
-        x.poke(page, 20, 1);
-        int sector = x.wrong(2);
-        x.poke(page, 20, 1);
-        return sector;
-    }
-
     private static void leastSectors() {
         KnowDisk x = new KnowDisk(2);
         x.page(1, -1, 1);
@@ -65,18 +63,18 @@ final class Promise02PageTest {
         x.page(1, 1, 5);
         x.commit(1);
         x.sync();
-        CHECKS.due("0 was laid beside itself", sectorOf(x, 0), 4);
-        CHECKS.due("2 got the sector that 0 left", sectorOf(x, 2), 2);
-        CHECKS.due("1 got the next", sectorOf(x, 1), 5);
+        CHECKS.due("0 was laid beside itself", Bytes.sectorOf(x, 0), 4);
+        CHECKS.due("2 got the sector that 0 left", Bytes.sectorOf(x, 2), 2);
+        CHECKS.due("1 got the next", Bytes.sectorOf(x, 1), 5);
         x.page(0, 0, 0);
         x.page(1, -1, 6);
         x.commit(2);
         x.sync();
-        CHECKS.due("3 was free, 4 is of the latest one", sectorOf(x, 0), 3);
+        CHECKS.due("3 was free, 4 is of the latest one", Bytes.sectorOf(x, 0), 3);
         x.page(1, 0, 7);
         x.commit(3);
         x.sync();
-        CHECKS.due("4 is free behind the sync", sectorOf(x, 0), 4);
+        CHECKS.due("4 is free behind the sync", Bytes.sectorOf(x, 0), 4);
     }
 
     private static void sectorsInUse() {
@@ -111,6 +109,7 @@ final class Promise02PageTest {
         CHECKS.due("one is free", x.page(3, 2, 0), 3);
     }
 
+    /** "-3; -2 when kind is none of these; -1 when there is no such page (..); -4 .. (for 0 never)". */
     private static void refused() {
         KnowDisk x = new KnowDisk(30);
         x.page(1, -1, 1);
@@ -138,6 +137,26 @@ final class Promise02PageTest {
         CHECKS.due("page(4), not running", x.page(4, 0, 0), -3);
         CHECKS.due("page(1, -1), not running", x.page(1, -1, 0), -3);
         CHECKS.due("page(0, 0), not running", x.page(0, 0, 0), -3);
+    }
+
+    /** "(for 0 never)": a page goes on a disk that has no free sector, is said to be full, and has 30 pages. */
+    private static void neverForZero() {
+        KnowDisk x = new KnowDisk(24);
+        for (int page = 0; page < 30; page++) {
+            CHECKS.due("page(1, -1, 0)", x.page(1, -1, page), page);
+        }
+        x.commit(1);
+        x.full(true);
+        CHECKS.due("none is laid", x.page(1, -1, 0), -4);
+        for (int page = 29; page >= 0; page--) {
+            CHECKS.due("page(0, " + page + ", 0)", x.page(0, page, 0), page);
+            CHECKS.due("it has gone", x.page(0, page, 0), -1);
+        }
+        x.full(false);
+        CHECKS.due("no sector is free before the sync", x.page(1, -1, 0), -4);
+        CHECKS.due("all went", x.commit(2), 1);
+        x.sync();
+        CHECKS.due("a new one", x.page(1, -1, 0), 0);
     }
 
     /** The document says -4 "when there are 30 pages", and excepts the kind 0 alone. */

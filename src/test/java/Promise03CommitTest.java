@@ -5,6 +5,9 @@ final class Promise03CommitTest {
     public static void main(String[] args) {
         counts();
         numbers();
+        noChange();
+        changeThatStays();
+        allSectors();
         sumsOfPokedPages();
         CHECKS.end();
     }
@@ -49,6 +52,63 @@ final class Promise03CommitTest {
         CHECKS.due("nothing changed by start", x.commit(6), -3);
     }
 
+    /** "(also when nothing was changed: no page was laid or went)": other calls are no change. */
+    private static void noChange() {
+        KnowDisk x = new KnowDisk(4);
+        x.page(1, -1, 1);
+        x.page(3, 0, 0);
+        x.commit(1);
+        x.sync();
+        x.poke(0, 4, 2);
+        CHECKS.due("a poke", x.commit(2), -3);
+        x.poke(0, 4, 2);
+        CHECKS.due("derived(1), it is right", x.derived(1), 0);
+        CHECKS.due("a derived page that is right", x.commit(2), -3);
+        x.backup(1);
+        CHECKS.due("a backup", x.commit(2), -3);
+        x.drop(1);
+        CHECKS.due("a drop", x.commit(2), -3);
+        x.full(true);
+        x.full(false);
+        CHECKS.due("full", x.commit(2), -3);
+        x.page(1, -1, 1);
+        x.cut(9, 32);
+        CHECKS.due("start()", x.start(), 1);
+        CHECKS.due("a page that was lost by a cut", x.commit(2), -3);
+        CHECKS.due("the page goes", x.page(0, 0, 0), 0);
+        CHECKS.due("that is one", x.commit(2), 1);
+    }
+
+    /** A change is there till it is committed, over a sync and over a commit that was refused. */
+    private static void changeThatStays() {
+        KnowDisk x = new KnowDisk(4);
+        x.page(1, -1, 1);
+        CHECKS.due("sync()", x.sync(), 0);
+        CHECKS.due("refused", x.commit(0), -2);
+        CHECKS.due("refused", x.commit(1000001), -2);
+        CHECKS.page("as it was laid", x, 0, 1, 255, 1, 0);
+        CHECKS.due("the latest one", x.sync(), 0);
+        CHECKS.due("commit(1)", x.commit(1), 2);
+        x.page(0, 0, 0);
+        CHECKS.due("refused", x.commit(1), -2);
+        CHECKS.due("sync()", x.sync(), 1);
+        CHECKS.due("commit(2)", x.commit(2), 1);
+    }
+
+    /** How many writes at most: 30 pages and a head. */
+    private static void allSectors() {
+        KnowDisk x = new KnowDisk(56);
+        for (int page = 0; page < 30; page++) {
+            x.page(1, -1, page);
+        }
+        CHECKS.due("30 pages and a head", x.commit(1), 31);
+        for (int page = 0; page < 30; page++) {
+            x.page(0, page, 0);
+        }
+        CHECKS.due("no page, a head", x.commit(2), 1);
+    }
+
+    /** "-2 when the number is not above the latest one's, or above 1000000". */
     private static void numbers() {
         KnowDisk x = new KnowDisk(20);
         x.page(1, -1, 1);

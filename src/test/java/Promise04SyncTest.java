@@ -3,6 +3,7 @@ final class Promise04SyncTest {
     private static final Checks CHECKS = new Checks();
 
     public static void main(String[] args) {
+        manyHeads();
         KnowDisk x = new KnowDisk(20);
         CHECKS.due("nothing waits", x.sync(), 0);
         x.page(1, -1, 1);
@@ -28,5 +29,23 @@ final class Promise04SyncTest {
         x.commit(12);
         CHECKS.due("sync()", x.sync(), 12);
         CHECKS.end();
+    }
+
+    /** "All writes that wait reach the disk", the last one of a sector being the one that stays. */
+    private static void manyHeads() {
+        for (int commits = 1; commits <= 5; commits++) {
+            KnowDisk x = new KnowDisk(20);
+            for (int number = 1; number <= commits; number++) {
+                x.page(1, number == 1 ? -1 : 0, number);
+                x.commit(number);
+            }
+            CHECKS.due("sync()", x.sync(), commits);
+            x.cut(0, 0);
+            CHECKS.due("start()", x.start(), commits);
+            CHECKS.page("the last one", x, 0, 1, 255, commits, commits);
+            x.poke(0, 31, 1);
+            x.cut(0, 0);
+            CHECKS.due("the head before is there too", x.start(), commits - 1);
+        }
     }
 }

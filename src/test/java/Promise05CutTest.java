@@ -9,6 +9,9 @@ final class Promise05CutTest {
         negativeKeep();
         tornPage();
         nothingElseIsLeft();
+        lostOverAnOldPage();
+        nothingWaits();
+        manyWait();
         notRunning();
         CHECKS.end();
     }
@@ -30,6 +33,7 @@ final class Promise05CutTest {
         return x;
     }
 
+    /** "The first keep of the writes that wait", "(0 .. 32; others count as the nearest of these)". */
     private static void everyCut() {
         int[] tears = {Integer.MIN_VALUE, -1, 0, 1, 4, 5, 8, 15, 16, 19, 20, 23, 24, 31, 32, 33, Integer.MAX_VALUE};
         int[] keeps = {Integer.MIN_VALUE, -1, 0, 1, 2, 3, 4, 5, 6, Integer.MAX_VALUE};
@@ -115,6 +119,7 @@ final class Promise05CutTest {
         CHECKS.due("the head of 5 torn beside that of 2", x.start(), 2);
     }
 
+    /** Fewer than no write can't reach the disk: the next one is the first. */
     private static void negativeKeep() {
         int[] keeps = {-1, Integer.MIN_VALUE};
         for (int keep : keeps) {
@@ -147,6 +152,69 @@ final class Promise05CutTest {
         }
     }
 
+    /** "others are lost": the sector has its old page, of an old head that is the only whole one. */
+    private static void lostOverAnOldPage() {
+        for (int commits = 0; commits <= 1; commits++) {
+            KnowDisk x = new KnowDisk(0);
+            x.page(2, -1, 11);
+            x.commit(1);
+            x.sync();
+            x.page(1, 0, 12);
+            x.commit(2);
+            x.sync();
+            x.poke(0, 31, 1);
+            CHECKS.due("laid over the page of 1", x.page(1, -1, 13), 1);
+            CHECKS.page("as it will be", x, 1, 1, 255, 13, 0);
+            if (commits == 1) {
+                CHECKS.due("commit(4)", x.commit(4), 2);
+            }
+            x.cut(0, 0);
+            CHECKS.due("2 has a wrong page", x.start(), 1);
+            CHECKS.page("the page of 1", x, 0, 2, 255, 11, 1);
+            CHECKS.noByte(x, 1, 0);
+            CHECKS.due("no page is wrong", x.wrong(0), 0);
+            x.page(3, 0, 0);
+            CHECKS.page("derived of what is on the disk", x, 1, 3, 0, Bytes.derived(11), 0);
+        }
+    }
+
+    /** No write waits: none reaches the disk, and none is the next one. */
+    private static void nothingWaits() {
+        int[] any = {Integer.MIN_VALUE, -1, 0, 1, 32, Integer.MAX_VALUE};
+        for (int keep : any) {
+            for (int tear : any) {
+                KnowDisk x = new KnowDisk(0);
+                x.page(1, -1, 1);
+                x.cut(keep, tear);
+                CHECKS.due("cut(" + keep + ", " + tear + ") of a new one", x.start(), 0);
+                CHECKS.noByte(x, 0, 0);
+                x.page(1, -1, 2);
+                x.commit(3);
+                x.sync();
+                x.page(1, 0, 4);
+                x.cut(keep, tear);
+                CHECKS.due("cut(" + keep + ", " + tear + ") behind a sync", x.start(), 3);
+                CHECKS.page("it is there", x, 0, 1, 255, 2, 3);
+            }
+        }
+    }
+
+    /** As many heads as 512 calls let wait. */
+    private static void manyWait() {
+        int[] keeps = {0, 1, 2, 168, 169, 170, 171};
+        for (int keep : keeps) {
+            KnowDisk x = new KnowDisk(0);
+            for (int number = 1; number <= 170; number++) {
+                x.page(1, -1, number);
+                x.page(0, 0, 0);
+                CHECKS.due("commit(" + number + ")", x.commit(number), 1);
+            }
+            x.cut(keep, 0);
+            CHECKS.due("cut(" + keep + ", 0) of 170 heads", x.start(), Math.min(keep, 170));
+        }
+    }
+
+    /** "others are lost; the disk does not run any more, nothing is kept". */
     private static void nothingElseIsLeft() {
         KnowDisk x = new KnowDisk(0);
         x.page(1, -1, 1);
@@ -169,6 +237,7 @@ final class Promise05CutTest {
         CHECKS.due("all are laid", x.page(1, -1, 3), -4);
     }
 
+    /** "Nothing when it does not run." */
     private static void notRunning() {
         KnowDisk x = new KnowDisk(4);
         x.page(1, -1, 1);

@@ -6,11 +6,81 @@ final class Promise06StartTest {
 
     public static void main(String[] args) {
         greaterNumber();
+        noneIsWhole();
+        emptyState();
+        thirtyPages();
+        onlyOneIsWhole();
         wrongSum();
         wrongXor();
         swapped();
         notAPage();
         CHECKS.end();
+    }
+
+    /** "0 when none is whole (no pages)": on a disk of 0s, whose sums of 0 are right, byte 4 is not 9. */
+    private static void noneIsWhole() {
+        KnowDisk x = new KnowDisk(0);
+        for (int k = 0; k < 3; k++) {
+            x.cut(0, 0);
+            CHECKS.due("start() of 0s", x.start(), 0);
+            for (int page = 0; page < 6; page++) {
+                CHECKS.noByte(x, page, 0);
+                CHECKS.due("all sectors are free", x.page(1, -1, 1), page);
+            }
+        }
+    }
+
+    /** A state without pages is one like others: its number is told. */
+    private static void emptyState() {
+        for (int number = 1; number <= 2; number++) {
+            KnowDisk x = new KnowDisk(0);
+            x.page(1, -1, 1);
+            x.page(0, 0, 0);
+            x.commit(number);
+            x.cut(1, 0);
+            CHECKS.due("start()", x.start(), number);
+            CHECKS.noByte(x, 0, 0);
+            CHECKS.due("backup of it", x.backup(number), 0);
+            x.page(1, -1, 1);
+            CHECKS.due("not above it", x.commit(number), -2);
+        }
+    }
+
+    private static void thirtyPages() {
+        KnowDisk x = new KnowDisk(56);
+        for (int page = 0; page < 30; page++) {
+            x.page(1 + page % 2, -1, page);
+        }
+        x.commit(7);
+        x.cut(31, 0);
+        CHECKS.due("start()", x.start(), 7);
+        for (int page = 0; page < 30; page++) {
+            CHECKS.due("kind of page " + page, x.at(page, 4), 1 + page % 2);
+            CHECKS.due("value of page " + page, x.at(page, 15), page);
+        }
+        CHECKS.due("a 31st", x.page(1, -1, 0), -4);
+        CHECKS.due("backup(7)", x.backup(7), 30);
+    }
+
+    /** "The state of the whole head with the greater number": a greater one that is not whole is none. */
+    private static void onlyOneIsWhole() {
+        for (int number = 1; number <= 2; number++) {
+            KnowDisk x = new KnowDisk(4);
+            x.page(1, -1, 1);
+            x.commit(number);
+            x.sync();
+            x.page(1, 0, 2);
+            x.page(1, -1, 3);
+            x.commit(number + 1);
+            x.sync();
+            x.poke(1, 12, 16);
+            x.cut(0, 0);
+            CHECKS.due("start()", x.start(), number);
+            CHECKS.page("the state before", x, 0, 1, 255, 1, number);
+            CHECKS.noByte(x, 1, 0);
+            x.page(1, -1, 4);
+            CHECKS.due("its number is the latest one", x.commit(number + 1), 2);
+        }
     }
 
     private static void greaterNumber() {

@@ -1,4 +1,4 @@
-/** Promise 7: bytes of pages, and where there are none. */
+/** Promise 7: "Byte i (0 .. 31)", "There are no others, and no such page when the disk does not run." */
 final class Promise07AtTest {
     private static final Checks CHECKS = new Checks();
 

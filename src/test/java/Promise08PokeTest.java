@@ -5,10 +5,12 @@ final class Promise08PokeTest {
     public static void main(String[] args) {
         everyByte();
         refused();
+        behindACut();
         toldByBytes();
         CHECKS.end();
     }
 
+    /** "A bit pattern (1 .. 255) is laid over byte i (0 .. 31)", the edges with them. */
     private static void everyByte() {
         KnowDisk x = new KnowDisk(20);
         x.page(1, -1, 0x0123456789ABCDEFL);
@@ -28,6 +30,25 @@ final class Promise08PokeTest {
         CHECKS.due("it is on the disk", x.start(), 0);
     }
 
+    /** Behind a cut and a start no write waits, and no page was laid. */
+    private static void behindACut() {
+        KnowDisk x = new KnowDisk(4);
+        x.page(1, -1, 1);
+        x.commit(1);
+        CHECKS.due("it waits", x.poke(0, 20, 1), -3);
+        x.cut(2, 0);
+        x.start();
+        CHECKS.due("it has reached the disk", x.poke(0, 20, 1), 1);
+        CHECKS.due("by xor", x.poke(0, 20, 3), 2);
+        x.page(2, -1, 2);
+        x.commit(2);
+        CHECKS.due("page 0 is in the state of 2, but no write of it waits", x.poke(0, 20, 2), 0);
+        CHECKS.due("page 1 waits", x.poke(1, 20, 2), -3);
+        x.page(1, 0, 3);
+        CHECKS.due("page 0 was laid since", x.poke(0, 20, 2), -3);
+    }
+
+    /** "-3; -1; -2; -3", in this order. */
     private static void refused() {
         KnowDisk x = new KnowDisk(20);
         x.page(1, -1, 1);

@@ -3,6 +3,8 @@ final class Promise09WrongTest {
     private static final Checks CHECKS = new Checks();
 
     public static void main(String[] args) {
+        allPages();
+        everyByte();
         KnowDisk x = new KnowDisk(20);
         wrong("new", x, 0, -1, -1);
         for (int page = 0; page < 5; page++) {
@@ -37,6 +39,41 @@ final class Promise09WrongTest {
             CHECKS.due("not running", x.wrong(what), -3);
         }
         CHECKS.end();
+    }
+
+    /** All 30 pages are wrong, one less at a time. */
+    private static void allPages() {
+        KnowDisk x = new KnowDisk(56);
+        for (int page = 0; page < 30; page++) {
+            x.page(1, -1, page);
+        }
+        x.commit(1);
+        x.sync();
+        for (int page = 0; page < 30; page++) {
+            x.poke(page, page, 1);
+        }
+        for (int page = 0; page < 30; page++) {
+            wrong("from " + page + " on", x, 30 - page, page, page + 2);
+            x.poke(page, page, 1);
+        }
+        wrong("none", x, 0, -1, -1);
+    }
+
+    /** The sum itself, and each of the bytes that it is of. */
+    private static void everyByte() {
+        KnowDisk x = new KnowDisk(0);
+        x.page(1, -1, 1);
+        x.page(2, -1, 2);
+        x.commit(1);
+        x.sync();
+        for (int i = 0; i < 32; i++) {
+            for (int bit = 1; bit < 256; bit += 127) {
+                x.poke(1, i, bit);
+                CHECKS.due("byte " + i + ", bits " + bit, x.wrong(2), 3);
+                x.poke(1, i, bit);
+            }
+        }
+        wrong("none", x, 0, -1, -1);
     }
 
     private static void wrong(String where, KnowDisk x, int count, int page, int sector) {

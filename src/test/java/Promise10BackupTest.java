@@ -3,6 +3,8 @@ final class Promise10BackupTest {
     private static final Checks CHECKS = new Checks();
 
     public static void main(String[] args) {
+        sameStateFourTimes();
+        thirtyPages();
         KnowDisk x = new KnowDisk(0);
         x.page(1, -1, 1);
         x.page(1, -1, 2);
@@ -32,5 +34,41 @@ final class Promise10BackupTest {
         CHECKS.due("not running", x.backup(2), -3);
         CHECKS.due("not running", x.backup(7), -3);
         CHECKS.end();
+    }
+
+    /** "-4 when 4 are kept": also 4 of one number; one that is dropped makes room for one. */
+    private static void sameStateFourTimes() {
+        KnowDisk x = new KnowDisk(0);
+        x.page(1, -1, 1);
+        x.commit(1);
+        for (int k = 0; k < 4; k++) {
+            CHECKS.due("backup(1)", x.backup(1), 1);
+        }
+        CHECKS.due("a fifth", x.backup(1), -4);
+        CHECKS.due("another number comes before", x.backup(0), -1);
+        CHECKS.due("drop(1)", x.drop(1), 0);
+        CHECKS.due("room for one", x.backup(1), 1);
+        CHECKS.due("and no more", x.backup(1), -4);
+        x.cut(2, 0);
+        x.start();
+        CHECKS.due("nothing is kept behind a cut", x.backup(1), 1);
+        CHECKS.due("but this one", x.drop(1), 0);
+        CHECKS.due("and no other", x.drop(1), -1);
+    }
+
+    private static void thirtyPages() {
+        KnowDisk x = new KnowDisk(56);
+        for (int page = 0; page < 30; page++) {
+            x.page(1, -1, page);
+        }
+        x.commit(1);
+        CHECKS.due("30 pages", x.backup(1), 30);
+        x.sync();
+        for (int page = 0; page < 30; page++) {
+            x.page(0, page, 0);
+        }
+        x.commit(2);
+        x.sync();
+        CHECKS.due("their sectors become free", x.drop(1), 30);
     }
 }

@@ -5,6 +5,7 @@ final class Promise11DropTest {
     public static void main(String[] args) {
         counts();
         firstOfANumber();
+        whyNotFree();
         CHECKS.end();
     }
 
@@ -51,7 +52,55 @@ final class Promise11DropTest {
         CHECKS.due("not running", x.drop(1), -3);
     }
 
-    /** Behind start() the same number can be that of another state. */
+    /** "how many sectors become free": not one that is in use for another reason, each by itself. */
+    private static void whyNotFree() {
+        KnowDisk x = threePagesKept();
+        CHECKS.due("free of all", x.drop(1), 3);
+        x = threePagesKept();
+        x.page(1, -1, 5);
+        CHECKS.due("a page is elsewhere, for these are kept", x.drop(1), 3);
+        x = new KnowDisk(0);
+        x.page(1, -1, 1);
+        x.commit(1);
+        x.backup(1);
+        CHECKS.due("in the open state", x.drop(1), 0);
+        x.sync();
+        x.backup(1);
+        x.page(0, 0, 0);
+        CHECKS.due("in the latest synced", x.drop(1), 0);
+        x.backup(1);
+        x.commit(2);
+        x.backup(2);
+        CHECKS.due("in the latest synced, behind a commit", x.drop(1), 0);
+        x.page(1, -1, 2);
+        x.commit(3);
+        x.backup(3);
+        x.page(0, 0, 0);
+        x.commit(4);
+        CHECKS.due("in one behind the latest synced", x.drop(3), 0);
+        x = threePagesKept();
+        x.cut(0, 0);
+        x.start();
+        CHECKS.due("nothing is kept behind a cut", x.drop(1), -1);
+    }
+
+    /** Transaction 1 has three pages and is kept, 2 has none and is on the disk. */
+    private static KnowDisk threePagesKept() {
+        KnowDisk x = new KnowDisk(0);
+        for (int page = 0; page < 3; page++) {
+            x.page(1, -1, page);
+        }
+        x.commit(1);
+        x.backup(1);
+        for (int page = 0; page < 3; page++) {
+            x.page(0, page, 0);
+        }
+        x.commit(2);
+        x.sync();
+        return x;
+    }
+
+    /** "(the first one of that number)": one is kept no more, others of that number are. */
     private static void firstOfANumber() {
         KnowDisk x = new KnowDisk(0);
         x.page(1, -1, 1);

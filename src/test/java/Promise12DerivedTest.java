@@ -7,6 +7,8 @@ final class Promise12DerivedTest {
         sourceThatWent();
         refused();
         thirtyPages();
+        sourceIsItself();
+        everyByte();
         CHECKS.end();
     }
 
@@ -81,6 +83,45 @@ final class Promise12DerivedTest {
         x.cut(0, 0);
         CHECKS.due("not running", x.derived(1), -3);
         CHECKS.due("not running", x.derived(-1), -3);
+    }
+
+    /** By its bytes a page can be derived from itself: it is a page, so it is laid anew. */
+    private static void sourceIsItself() {
+        KnowDisk x = new KnowDisk(4);
+        x.page(1, -1, 5);
+        x.page(3, 0, 0);
+        x.commit(1);
+        x.sync();
+        x.poke(1, 6, 1);
+        CHECKS.due("derived(1)", x.derived(1), 1);
+        CHECKS.page("of itself", x, 1, 3, 1, Bytes.derived(Bytes.derived(5)), 0);
+        x.commit(2);
+        x.sync();
+        x.poke(1, 6, 1 ^ 30);
+        CHECKS.due("page 30 is no page", x.derived(1), 0);
+        x.poke(1, 6, 30 ^ 255);
+        CHECKS.due("255 is no page", x.derived(1), 0);
+        x.poke(1, 6, 255 ^ 29);
+        CHECKS.due("page 29 is not there", x.derived(1), 0);
+    }
+
+    /** "whose sector's sum is not right": whichever byte it is, if its kind and source are there. */
+    private static void everyByte() {
+        for (int i = 0; i < 32; i++) {
+            KnowDisk x = new KnowDisk(0);
+            x.page(1, -1, 5);
+            x.page(3, 0, 0);
+            x.commit(1);
+            x.sync();
+            x.poke(1, i, 4);
+            int due = i == 4 ? -1 : i == 6 ? 0 : 1;
+            CHECKS.due("byte " + i + " is poked", x.derived(1), due);
+            if (due == 1) {
+                CHECKS.page("byte " + i, x, 1, 3, 0, Bytes.derived(5), 0);
+                CHECKS.due("it is right", x.derived(1), 0);
+                CHECKS.due("commit(2)", x.commit(2), 2);
+            }
+        }
     }
 
     /** -4 as for page(), which says -4 "when there are 30 pages". */

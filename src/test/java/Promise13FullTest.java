@@ -1,4 +1,4 @@
-/** Promise 13: the disk is said to be full, or not. */
+/** Promise 13: "The disk is said to be full, or not (also when it does not run): whether it was." */
 final class Promise13FullTest {
     private static final Checks CHECKS = new Checks();
 
